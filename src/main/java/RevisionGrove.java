@@ -328,6 +328,28 @@ public final class RevisionGrove {
             return f < FIRST_LIST || hasSamePlaces(other, firstPlace(f));
         }
 
+        int sameAtBeginning(Fields other, int f) {
+            int first = firstPlace(f);
+            int most = Math.min(length(f), other.length(f));
+            int n = 0;
+            while (n < most && cells[first + n] == other.cells[first + n]) {
+                n++;
+            }
+            return n;
+        }
+
+        /** The first head ints of both have been taken off before, and do not count again. */
+        int sameAtEnd(Fields other, int f, int head) {
+            int last = firstPlace(f) + length(f) - 1;
+            int otherLast = firstPlace(f) + other.length(f) - 1;
+            int most = Math.min(length(f), other.length(f)) - head;
+            int n = 0;
+            while (n < most && cells[last - n] == other.cells[otherLast - n]) {
+                n++;
+            }
+            return n;
+        }
+
         void take(Fields from, int f) {
             cells[f] = from.cells[f];
             if (f >= FIRST_LIST) {
@@ -567,30 +589,21 @@ public final class RevisionGrove {
         }
 
         private static boolean joinList(Fields joined, Fields x, Change mine, Change theirs, int f) {
-            if (x.length(f) + mine.growth() + theirs.growth() > MOST_INTS) {
+            boolean mineFirst = mine.end <= theirs.begin;
+            boolean theirsFirst = theirs.end <= mine.begin;
+            // Both hold only if both stretches are empty at the same place, where neither goes first.
+            if (mineFirst == theirsFirst || x.length(f) + mine.growth() + theirs.growth() > MOST_INTS) {
                 return false;
             }
-            if (mine.isEmpty() && theirs.isEmpty() && mine.begin == theirs.begin) {
-                return false;
-            }
-            if (mine.end <= theirs.begin) {
-                applyBoth(joined, x, mine, theirs, f);
-                return true;
-            }
-            if (theirs.end <= mine.begin) {
-                applyBoth(joined, x, theirs, mine, f);
-                return true;
-            }
-            return false;
-        }
-
-        private static void applyBoth(Fields joined, Fields x, Change first, Change second, int f) {
+            Change first = mineFirst ? mine : theirs;
+            Change second = mineFirst ? theirs : mine;
             joined.clearList(f);
             joined.append(f, x, 0, first.begin);
             joined.append(f, first.version, first.begin, first.versionEnd);
             joined.append(f, x, first.end, second.begin);
             joined.append(f, second.version, second.begin, second.versionEnd);
             joined.append(f, x, second.end, x.length(f));
+            return true;
         }
     }
 
@@ -602,41 +615,16 @@ public final class RevisionGrove {
         private final int versionEnd;
 
         Change(Fields base, Fields version, int f) {
-            int head = sameAtBeginning(base, version, f);
-            int tail = sameAtEnd(base, version, f, head);
+            int head = base.sameAtBeginning(version, f);
+            int tail = base.sameAtEnd(version, f, head);
             this.version = version;
             this.begin = head;
             this.end = base.length(f) - tail;
             this.versionEnd = version.length(f) - tail;
         }
 
-        boolean isEmpty() {
-            return begin == end;
-        }
-
         int growth() {
             return versionEnd - end;
-        }
-
-        private static int sameAtBeginning(Fields one, Fields other, int f) {
-            int most = Math.min(one.length(f), other.length(f));
-            int n = 0;
-            while (n < most && one.intAt(f, n) == other.intAt(f, n)) {
-                n++;
-            }
-            return n;
-        }
-
-        /** The first head ints have been taken off already, and do not count again. */
-        private static int sameAtEnd(Fields one, Fields other, int f, int head) {
-            int oneLast = one.length(f) - 1;
-            int otherLast = other.length(f) - 1;
-            int most = Math.min(oneLast, otherLast) + 1 - head;
-            int n = 0;
-            while (n < most && one.intAt(f, oneLast - n) == other.intAt(f, otherLast - n)) {
-                n++;
-            }
-            return n;
         }
     }
 }

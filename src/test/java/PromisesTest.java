@@ -374,6 +374,8 @@ public final class PromisesTest {
                 "9 2 3 4 5 6 7 9");
         joined("put in where there is room by the other", "1 2 3 4 5 6 7", "3 4 5 6 7", "1 2 3 4 5 6 7 8",
                 "3 4 5 6 7 8");
+        joined("an int 0 is an int like others", "1", "1 0", "0 1", "0 1 0");
+        joined("an int 0 behind all is taken out", "1 0", "1", "2 1 0", "2 1");
         conflict("12 ints are too many", "", "1 2 3 4 5 6 7 8", "9 9 9 9");
         conflict("16 ints are too many", "5 6", "1 2 3 4 5 6 5 6", "5 6 7 8 9 9 9 9");
         joined("ints far apart", "" + MIN + " " + MAX, "" + MAX, "" + MIN + " " + MAX + " -1", "" + MAX + " -1");
@@ -563,6 +565,11 @@ public final class PromisesTest {
                 due(name, "the joined list", text(grove, f), due);
                 due(name, "the other list", text(grove, 13 - f), "");
                 due(name, "figure(1)", Calls.answer(grove, "figure(1)"), "" + (grove.figure(0) + 1));
+                int merged = grove.figure(0);
+                grove.go(0);
+                write(grove, f, ints(due));
+                int differing = grove.differ(merged, grove.figure(0)) & 1 << f;
+                due(name, "differ() from the same list made otherwise", "" + differing, "0");
             }
         }
     }
