@@ -1,21 +1,11 @@
-import java.util.ArrayList;
-import java.util.List;
-
-/**
- * Written runs of calls on new objects for each promise of the document. A row
- * is a call and the answer that is due, "call = answer", or the call alone if
- * it answers nothing; "crowd" stands for add(3, 1) until there are 60 revisions.
- */
+/** Written runs of calls on new objects for each promise of the document. */
 public final class PromisesTest {
-    private static final String IAE = "throws.IllegalArgumentException";
-    private static final String ISE = "throws.IllegalStateException";
-    private static final String IOOBE = "throws.IndexOutOfBoundsException";
-    private static final String NSEE = "throws.NoSuchElementException";
-    private static final int MIN = Integer.MIN_VALUE;
-    private static final int MAX = Integer.MAX_VALUE;
-
-    private static int wrong;
-    private static int rows;
+    private static final String IAE = Run.IAE;
+    private static final String ISE = Run.ISE;
+    private static final String IOOBE = Run.IOOBE;
+    private static final String NSEE = Run.NSEE;
+    private static final int MIN = Run.MIN;
+    private static final int MAX = Run.MAX;
 
     public static void main(String[] args) {
         newObject();
@@ -41,10 +31,7 @@ public final class PromisesTest {
         parent();
         prune();
         figure();
-        System.out.println(rows + " answers looked at, " + wrong + " are not as due");
-        if (wrong != 0) {
-            System.exit(1);
-        }
+        Report.end();
     }
 
     private static void newObject() {
@@ -64,13 +51,10 @@ public final class PromisesTest {
 
     /** A second object knows nothing of the first one. */
     private static void twoObjects() {
-        RevisionGrove one = new RevisionGrove();
-        one.put(0, 5);
-        RevisionGrove other = new RevisionGrove();
-        due("1 two objects", "figure(1)", Calls.answer(other, "figure(1)"), "1");
-        due("1 two objects", "put(1, 6)", Calls.answer(other, "put(1, 6)"), "1");
-        due("1 two objects", "value(1, 0, 0)", Calls.answer(other, "value(1, 0, 0)"), "0");
-        due("1 two objects", "value(1, 1, 0)", Calls.answer(one, "value(1, 1, 0)"), "0");
+        Run one = new Run("promise 1 the first of two objects").rows("put(0, 5) = 1");
+        Run other = new Run("promise 1 the second of two objects");
+        other.rows("figure(1) = 1", "put(1, 6) = 1", "value(1, 0, 0) = 0");
+        one.rows("value(1, 1, 0) = 0");
     }
 
     private static void put() {
@@ -155,6 +139,29 @@ public final class PromisesTest {
                 "value(8, 7, 0) = 8", "value(8, 7, 7) = 7", "value(8, 6, -1) = 0", "insert(6, 0, 9) = 9");
         run("5 insert with 60 revisions", "crowd", "insert(6, 0, 1) = " + ISE, "insert(6, 1, 1) = " + IOOBE,
                 "insert(5, 0, 1) = " + IAE, "figure(0) = 59", "value(59, 6, -1) = 0");
+        for (int length = 0; length <= 7; length++) {
+            for (int p = 0; p <= length; p++) {
+                insertAt(length, p);
+            }
+        }
+    }
+
+    private static void insertAt(int length, int p) {
+        Run run = tens("promise 5 insert before place " + p + " of " + length, length);
+        run.rows("insert(6, " + p + ", -1) = " + (length + 1), "value(" + (length + 1) + ", 6, -1) = " + (length + 1));
+        for (int i = 0; i <= length; i++) {
+            int due = i < p ? 10 * i : i == p ? -1 : 10 * (i - 1);
+            run.due("value(" + (length + 1) + ", 6, " + i + ")", "" + due);
+        }
+    }
+
+    /** List 6 has 0, 10, 20 and so on, and revision length is the present one. */
+    private static Run tens(String name, int length) {
+        Run run = new Run(name);
+        for (int i = 0; i < length; i++) {
+            run.rows("insert(6, " + i + ", " + 10 * i + ") = " + (i + 1));
+        }
+        return run;
     }
 
     private static void remove() {
@@ -180,6 +187,20 @@ public final class PromisesTest {
                 "value(11, 6, -1) = 6", "value(11, 6, 0) = 2", "value(11, 6, 5) = 7", "value(11, 7, 0) = 9");
         run("6 remove with 60 revisions", "insert(6, 0, 1) = 1", "crowd", "remove(6, 0) = " + ISE,
                 "remove(6, 1) = " + IOOBE, "remove(0, 1) = " + IAE, "value(59, 6, -1) = 1");
+        for (int length = 1; length <= 8; length++) {
+            for (int p = 0; p < length; p++) {
+                removeAt(length, p);
+            }
+        }
+    }
+
+    private static void removeAt(int length, int p) {
+        Run run = tens("promise 6 remove at place " + p + " of " + length, length);
+        run.rows("remove(6, " + p + ") = " + (length + 1), "value(" + (length + 1) + ", 6, -1) = " + (length - 1));
+        for (int i = 0; i < length - 1; i++) {
+            run.due("value(" + (length + 1) + ", 6, " + i + ")", "" + 10 * (i < p ? i : i + 1));
+        }
+        run.rows("value(" + (length + 1) + ", 6, " + (length - 1) + ") = " + IOOBE);
     }
 
     private static void point() {
@@ -240,18 +261,15 @@ public final class PromisesTest {
     }
 
     private static void undoAllAndRedoAll() {
-        RevisionGrove grove = new RevisionGrove();
-        crowd(grove);
+        Run run = new Run("promises 10 and 11 undo and redo of all 59").rows("crowd");
         for (int r = 58; r >= 0; r--) {
-            due("10 undo of all 59", "undo()", Calls.answer(grove, "undo()"), "" + r);
+            run.due("undo()", "" + r);
         }
-        due("10 undo of all 59", "undo()", Calls.answer(grove, "undo()"), NSEE);
-        due("10 undo of all 59", "figure(3)", Calls.answer(grove, "figure(3)"), "59");
-        due("10 undo of all 59", "prune()", Calls.answer(grove, "prune()"), "0");
+        run.rows("undo() = " + NSEE, "figure(3) = 59", "prune() = 0");
         for (int r = 1; r <= 59; r++) {
-            due("11 redo of all 59", "redo()", Calls.answer(grove, "redo()"), "" + r);
+            run.due("redo()", "" + r);
         }
-        due("11 redo of all 59", "redo()", Calls.answer(grove, "redo()"), NSEE);
+        run.rows("redo() = " + NSEE);
     }
 
     private static void redo() {
@@ -542,6 +560,30 @@ public final class PromisesTest {
                 "put(1, 5) = 1", "value(1, 0, 0) = 0", "value(1, 6, -1) = 0", "value(1, 1, 0) = 5");
         run("18 prune makes room again", "crowd", "put(0, 1) = " + ISE, "prune() = 0", "go(30)", "prune() = 29",
                 "figure(1) = 31", "put(0, 1) = 31", "value(31, 3, 0) = 30", "crowd", "figure(1) = 60");
+        run("18 prune takes away nothing of a new object, and nothing twice", "prune() = 0", "figure(1) = 1",
+                "put(0, 1) = 1", "prune() = 0", "go(0)", "prune() = 1", "prune() = 0", "figure(1) = 1");
+        run("18 prune takes away 59 of 60", "crowd", "go(0)", "prune() = 59", "figure(1) = 1", "figure(0) = 0",
+                "go(1) = " + IAE);
+        for (int b = 0; b <= 3; b++) {
+            pruneForOneBranch(b);
+        }
+    }
+
+    /** Each branch alone keeps what it points to and what it has undone, and no more. */
+    private static void pruneForOneBranch(int b) {
+        int other = b == 3 ? 0 : b + 1;
+        String[] before = {"put(0, 9) = 1", "go(0)", "turn(" + b + ") = 0", "put(0, 1) = 2", "put(0, 2) = 3",
+            "put(0, 3) = 4"};
+        run("18 prune keeps the ancestors of one to which a branch points, and not what comes after it", before,
+                "go(3)", "turn(" + other + ") = 0", "prune() = 2", "figure(1) = 3", "figure(" + (4 + b) + ") = 2",
+                "value(1, 0, 0) = 1", "value(2, 0, 0) = 2", "parent(2, false) = 1", "turn(" + b + ") = 2",
+                "undo() = 1", "undo() = 0");
+        run("18 prune keeps the ancestors of one which is in a list of undone ones, and not what comes after it",
+                before, "go(3)", "undo() = 2", "undo() = 0", "turn(" + other + ") = 0", "prune() = 2",
+                "figure(1) = 3", "figure(" + (4 + b) + ") = 0", "turn(" + b + ") = 0", "figure(3) = 2", "redo() = 1",
+                "value(1, 0, 0) = 1", "redo() = 2", "value(2, 0, 0) = 2", "redo() = " + NSEE);
+        run("18 prune takes away what no branch points to, and no list has", before, "go(0)",
+                "turn(" + other + ") = 0", "prune() = 4", "figure(1) = 1");
     }
 
     private static void figure() {
@@ -554,124 +596,19 @@ public final class PromisesTest {
                 "figure(" + MIN + ") = " + IAE, "figure(7) = 0");
     }
 
-    /** That list x on the base, y on the present way and z on the other one are joined, for both lists and ways. */
     private static void joined(String what, String x, String y, String z, String due) {
-        for (int f = 6; f <= 7; f++) {
-            for (int turned = 0; turned <= 1; turned++) {
-                RevisionGrove grove = twoWays(f, x, turned == 0 ? y : z, turned == 0 ? z : y);
-                String name = "12 lists: " + what + ", list " + f + (turned == 0 ? "" : ", turned round");
-                due(name, "merge(1, 0)", Calls.answer(grove, "merge(1, 0)"), "2");
-                due(name, "conflicts()", Calls.answer(grove, "conflicts()"), "0");
-                due(name, "the joined list", text(grove, f), due);
-                due(name, "the other list", text(grove, 13 - f), "");
-                due(name, "figure(1)", Calls.answer(grove, "figure(1)"), "" + (grove.figure(0) + 1));
-                int merged = grove.figure(0);
-                grove.go(0);
-                write(grove, f, ints(due));
-                int differing = grove.differ(merged, grove.figure(0)) & 1 << f;
-                due(name, "differ() from the same list made otherwise", "" + differing, "0");
-            }
-        }
+        ListWays.joined("promise 12 lists: " + what, x, y, z, due);
     }
 
-    /** That they are a conflict, whichever of them is on the present way, and settled as asked. */
     private static void conflict(String what, String x, String y, String z) {
-        for (int f = 6; f <= 7; f++) {
-            for (int turned = 0; turned <= 1; turned++) {
-                String mine = turned == 0 ? y : z;
-                String theirs = turned == 0 ? z : y;
-                String name = "12 lists: " + what + ", list " + f + (turned == 0 ? "" : ", turned round");
-                RevisionGrove grove = twoWays(f, x, mine, theirs);
-                due(name, "merge(1, 0)", Calls.answer(grove, "merge(1, 0)"), ISE);
-                due(name, "conflicts()", Calls.answer(grove, "conflicts()"), "" + (1 << f));
-                due(name, "the list as it was", text(grove, f), mine);
-                due(name, "merge(1, 1)", Calls.answer(grove, "merge(1, 1)"), "2");
-                due(name, "the list settled for the present one", text(grove, f), mine);
-                grove = twoWays(f, x, mine, theirs);
-                due(name, "merge(1, 2)", Calls.answer(grove, "merge(1, 2)"), "2");
-                due(name, "the list settled for the other one", text(grove, f), theirs);
-                due(name, "conflicts()", Calls.answer(grove, "conflicts()"), "" + (1 << f));
-            }
-        }
+        ListWays.conflict("promise 12 lists: " + what, x, y, z);
     }
 
-    /** Branch 0, the present one, comes to list y and branch 1 to list z, both from a revision with list x. */
-    private static RevisionGrove twoWays(int f, String x, String y, String z) {
-        RevisionGrove grove = new RevisionGrove();
-        write(grove, f, ints(x));
-        grove.point(1);
-        grove.turn(1);
-        write(grove, f, ints(z));
-        grove.put(0, 1);
-        grove.turn(0);
-        write(grove, f, ints(y));
-        grove.put(1, 1);
-        return grove;
+    private static void run(String name, String... rows) {
+        new Run("promise " + name).rows(rows);
     }
 
-    private static void write(RevisionGrove grove, int f, List<Integer> list) {
-        while (grove.value(grove.figure(0), f, -1) > 0) {
-            grove.remove(f, 0);
-        }
-        for (int i = 0; i < list.size(); i++) {
-            grove.insert(f, i, list.get(i));
-        }
-    }
-
-    private static List<Integer> ints(String text) {
-        List<Integer> ints = new ArrayList<>();
-        for (String word : text.split(" ")) {
-            if (!word.isEmpty()) {
-                ints.add(Integer.valueOf(word));
-            }
-        }
-        return ints;
-    }
-
-    private static String text(RevisionGrove grove, int f) {
-        StringBuilder text = new StringBuilder();
-        int r = grove.figure(0);
-        for (int i = 0; i < grove.value(r, f, -1); i++) {
-            text.append(i == 0 ? "" : " ").append(grove.value(r, f, i));
-        }
-        return text.toString();
-    }
-
-    private static void run(String name, String... lines) {
-        run(name, new String[0], lines);
-    }
-
-    private static void run(String name, String[] before, String... lines) {
-        RevisionGrove grove = new RevisionGrove();
-        for (String line : before) {
-            row(name, grove, line);
-        }
-        for (String line : lines) {
-            row(name, grove, line);
-        }
-    }
-
-    private static void row(String name, RevisionGrove grove, String line) {
-        if (line.equals("crowd")) {
-            crowd(grove);
-            return;
-        }
-        int sign = line.indexOf(" = ");
-        String call = sign < 0 ? line : line.substring(0, sign);
-        due(name, call, Calls.answer(grove, call), sign < 0 ? "done" : line.substring(sign + 3));
-    }
-
-    private static void crowd(RevisionGrove grove) {
-        for (int n = grove.figure(1); n < 60; n++) {
-            grove.add(3, 1);
-        }
-    }
-
-    private static void due(String name, String call, String got, String due) {
-        rows++;
-        if (!got.equals(due)) {
-            wrong++;
-            System.out.println("promise " + name + ": " + call + " answered " + got + ", due is " + due);
-        }
+    private static void run(String name, String[] before, String... rows) {
+        new Run("promise " + name).rows(before).rows(rows);
     }
 }
