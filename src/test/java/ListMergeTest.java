@@ -26,6 +26,7 @@ public final class ListMergeTest {
         endsOrBegins();
         emptyAtTheSamePlace();
         moreThanEight();
+        noneLeft();
         Report.end();
     }
 
@@ -184,5 +185,12 @@ public final class ListMergeTest {
         ListWays.joined(name + ": 8 of 8", "1 2 3 4 5 6 7 8", "0 2 3 4 5 6 7 8", "1 2 3 4 5 6 7 0",
                 "0 2 3 4 5 6 7 0");
         ListWays.conflict(name + ": 15, the most of one int", "1", "0 0 0 0 0 0 0 1", "1 2 2 2 2 2 2 2");
+    }
+
+    private static void noneLeft() {
+        String name = "then the list is x with both changes";
+        ListWays.joined(name + ": none of 2 is left", "1 2", "2", "1", "");
+        ListWays.joined(name + ": none of 8 is left", "1 2 3 4 5 6 7 8", "1 2 3 4", "5 6 7 8", "");
+        ListWays.joined(name + ": one is left", "1 2 3", "2 3", "1 2", "2");
     }
 }
