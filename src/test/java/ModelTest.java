@@ -104,7 +104,10 @@ public final class ModelTest {
         met.merge(event, 1, Integer::sum);
     }
 
-    /** What is not the same in all that can be seen without a change of state; null if all is. */
+    /**
+     * What is not the same in all that can be seen without a change of state; null if all is. These
+     * looks make more than 512 calls in all: the class counts none, and the calls of the run are fewer.
+     */
     private String difference() {
         for (int k = 0; k <= 7; k++) {
             if (grove.figure(k) != plain.figure(k)) {
